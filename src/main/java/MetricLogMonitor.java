@@ -357,12 +357,10 @@ public final class MetricLogMonitor {
             this.b = b;
         }
 
-        @Override
         int reach(Log log) {
             return log.size;
         }
 
-        @Override
         long evaluate(Log log, int i) {
             long set = 0;
             for (int n = 0; n < ASSIGNMENTS; n++) {
@@ -390,12 +388,10 @@ public final class MetricLogMonitor {
             return !less && isVariable(a) != isVariable(b) ? variablesAmong(a, b) : 0;
         }
 
-        @Override
         int reach(Log log) {
             return log.size;
         }
 
-        @Override
         long evaluate(Log log, int i) {
             long set = 0;
             for (int n = 0; n < ASSIGNMENTS; n++) {
@@ -417,12 +413,10 @@ public final class MetricLogMonitor {
             this.part = part;
         }
 
-        @Override
         int reach(Log log) {
             return part.decided;
         }
 
-        @Override
         long evaluate(Log log, int i) {
             return ~part.setAt(i);
         }
@@ -447,12 +441,10 @@ public final class MetricLogMonitor {
                     : first.rangedVariables & second.rangedVariables;
         }
 
-        @Override
         int reach(Log log) {
             return Math.min(first.decided, second.decided);
         }
 
-        @Override
         long evaluate(Log log, int i) {
             return both ? first.setAt(i) & second.setAt(i) : first.setAt(i) | second.setAt(i);
         }
@@ -469,12 +461,10 @@ public final class MetricLogMonitor {
             this.part = part;
         }
 
-        @Override
         int reach(Log log) {
             return part.decided;
         }
 
-        @Override
         long evaluate(Log log, int i) {
             return unfold(v, fold(v, part.setAt(i)));
         }
@@ -492,12 +482,10 @@ public final class MetricLogMonitor {
             this.part = part;
         }
 
-        @Override
         int reach(Log log) {
             return Math.min(log.size, 1 + part.decided);
         }
 
-        @Override
         long evaluate(Log log, int i) {
             return i > 0 && liesIn(log.duration(i - 1, i), lo, hi) ? part.setAt(i - 1) : 0L;
         }
@@ -518,12 +506,10 @@ public final class MetricLogMonitor {
             this.second = second;
         }
 
-        @Override
         int reach(Log log) {
             return Math.min(first.decided, second.decided);
         }
 
-        @Override
         long evaluate(Log log, int i) {
             long set = 0;
             long firstHeld = ALL_ASSIGNMENTS;
@@ -553,7 +539,6 @@ public final class MetricLogMonitor {
         }
 
         // Times never fall, so of the places that may decide a place the last one decides it if any does.
-        @Override
         int reach(Log log) {
             int last = Math.min(Math.min(first.decided, second.decided), log.size - 1);
             int count = 0;
@@ -566,7 +551,6 @@ public final class MetricLogMonitor {
         }
 
         // The place is decided, so the parts are known at every place whose duration does not go beyond hi.
-        @Override
         long evaluate(Log log, int i) {
             long set = 0;
             long firstHeld = ALL_ASSIGNMENTS;

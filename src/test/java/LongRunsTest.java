@@ -2,7 +2,7 @@ import java.util.ArrayList;
 import java.util.List;
 import java.util.Random;
 
-/** Runs of 512 calls, drawn from a fixed seed, good and bad ones mixed: every answer is compared with the plain model's. */
+/** Runs of 512 calls from fixed seeds, good and bad ones mixed: every answer is compared with the plain model's. */
 public final class LongRunsTest {
     private static final int RUNS = 600;
     private static final int CALLS = 512;

@@ -1,4 +1,4 @@
-/** All that can be asked of a monitor without changing it, as a text, so that a refused call can be seen to change nothing. */
+/** What a monitor answers to the calls that change nothing, as a text: a refused call must leave it the same. */
 final class Snapshot {
     private Snapshot() {
     }
