@@ -26,8 +26,17 @@ final class Due {
         compared++;
         if (!got.equals(want)) {
             wrong++;
-            System.out.println(what + ": " + got + ", due is " + want);
+            System.out.println(what + ": " + firstDifference(got.split("\n"), want.split("\n")));
         }
+    }
+
+    private static String firstDifference(String[] got, String[] want) {
+        for (int n = 0; n < Math.min(got.length, want.length); n++) {
+            if (!got[n].equals(want[n])) {
+                return got[n] + ", due is " + want[n];
+            }
+        }
+        return got.length + " lines, due are " + want.length;
     }
 
     static int wrongSoFar() {

@@ -6,16 +6,20 @@ import java.util.Random;
 public final class LongRunsTest {
     private static final int RUNS = 600;
     private static final int CALLS = 512;
+    /** What times and intervals are multiples of, run by run: small numbers, and some that reach the latest time. */
+    private static final int[] UNITS = {1, 1, 1000, 30000, 333333, 500000};
     private static final int[] ODD = {Integer.MIN_VALUE, -2, -1, 3, 8, 12, 24, 1000000, 1000001, Integer.MAX_VALUE};
 
     private final Random random;
+    private final int unit;
     private final MetricLogMonitor monitor = new MetricLogMonitor();
     private final PlainModel model = new PlainModel();
     private final List<String> calls = new ArrayList<>();
     private int time = 0;
 
-    private LongRunsTest(long seed) {
-        random = new Random(seed);
+    private LongRunsTest(int run) {
+        random = new Random(run);
+        unit = UNITS[run % UNITS.length];
     }
 
     public static void main(String[] args) {
@@ -107,8 +111,8 @@ public final class LongRunsTest {
     }
 
     private void makeWithInterval() {
-        int lo = random.nextInt(3) == 0 ? number(8) : number(2);
-        int hi = random.nextInt(5) == 0 ? -1 : Math.max(lo, 0) + number(6);
+        int lo = duration(random.nextInt(3) == 0 ? 8 : 2);
+        int hi = random.nextInt(5) == 0 ? -1 : Math.max(lo, 0) + duration(6);
         int f = formula();
         int g = formula();
         String rest = "(" + lo + ", " + hi + ", " + f;
@@ -133,7 +137,7 @@ public final class LongRunsTest {
                     model.gather(relation, x, y));
             return;
         }
-        int next = random.nextInt(12) == 0 ? number(40) : time + random.nextInt(4);
+        int next = random.nextInt(12) == 0 ? duration(40) : time + duration(4);
         int place = model.place(next);
         due("place(" + next + ")", monitor.place(next), place);
         if (place >= 0) {
@@ -182,6 +186,11 @@ public final class LongRunsTest {
 
     private int number(int below) {
         return random.nextInt(40) == 0 ? ODD[random.nextInt(ODD.length)] : random.nextInt(below);
+    }
+
+    /** A multiple of the unit, or now and then one beside it. */
+    private int duration(int below) {
+        return number(below) * unit + (random.nextInt(10) == 0 ? random.nextInt(3) - 1 : 0);
     }
 
     private int term() {

@@ -114,7 +114,7 @@ public final class VariablesTest {
         expect("deep: a formula without it stays bounded", m.since(0, 1, 0, 0), 1, 1, true);
     }
 
-    /** Formula 0 is an atom of variable 0; formula 2, EXISTS 1 LESS 1 value, has no free variable and is not bounded. */
+    /** Formula 0 is an atom of variable 0; formula 2, EXISTS 1 LESS 1 value, has none free and is not bounded. */
     private static MetricLogMonitor unrangedExists() {
         MetricLogMonitor made = new MetricLogMonitor();
         made.atom(0, 0, 4);
