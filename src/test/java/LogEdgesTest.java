@@ -17,6 +17,8 @@ public final class LogEdgesTest {
         gatherOfTheSamePairAgain();
         gatherOfAllPairs();
         gatherWithAFullLog();
+        gatherRefusedWithAFullLog();
+        gatherWithAFullLogLeavesTheLog();
         placeWithoutWatching();
         placeAtTheFirstAndLastTime();
         placeNotEarlierThanTheLatest();
@@ -29,6 +31,7 @@ public final class LogEdgesTest {
         stopEmptiesTheLog();
         stopForgetsWhatIsGathered();
         stopTwice();
+        secondLogIsLikeTheFirst();
         Due.end();
     }
 
@@ -179,15 +182,48 @@ public final class LogEdgesTest {
         }
     }
 
-    /** Only place() is refused when there are 24 places. */
+    /** Promise 14 names all that gather is refused for, and 24 places are not among it: only place is refused then. */
     private static void gatherWithAFullLog() {
-        Edge.answers(Scene.FULL_LOG, Call.gather(0, 3, 3), 1);
-        MetricLogMonitor m = Scene.FULL_LOG.make();
-        m.gather(0, 3, 3);
-        Due.due("24 places: gather(0, 3, 3) again", m.gather(0, 3, 3), false);
-        m.stop(false);
-        m.watch();
-        Due.due("24 places: gathered, then stopped", m.gather(0, 3, 3), true);
+        for (int pair = 0; pair < 48; pair++) {
+            MetricLogMonitor m = fullWithNothingGathered();
+            Call gather = Call.gather(pair / 16, pair / 4 % 4, pair % 4);
+            Due.due("24 places: " + gather.text(), gather.on(m), 1);
+            Due.due("24 places: " + gather.text() + " again", gather.on(m), 0);
+            Due.refused("24 places: place after " + gather.text(), m.place(LATEST));
+            Due.due("24 places: " + gather.text() + " after a refused place", gather.on(m), 0);
+            m.stop(false);
+            m.watch();
+            Due.due("24 places: " + gather.text() + " after a stop", gather.on(m), 1);
+        }
+    }
+
+    private static void gatherRefusedWithAFullLog() {
+        for (int relation : Calls.NO_RELATION) {
+            Edge.refused(Scene.FULL_LOG, Call.gather(relation, 3, 3));
+        }
+        for (int value : Calls.NO_VALUE) {
+            Edge.refused(Scene.FULL_LOG, Call.gather(0, value, 3));
+            Edge.refused(Scene.FULL_LOG, Call.gather(2, 0, value));
+        }
+    }
+
+    /** Promise 14: "for the next place of the log", so the 24 that are there hold what they held. */
+    private static void gatherWithAFullLogLeavesTheLog() {
+        MetricLogMonitor m = fullWithNothingGathered();
+        String before = Snapshot.of(m, 3, 24);
+        for (int pair = 0; pair < 48; pair++) {
+            m.gather(pair / 16, pair / 4 % 4, pair % 4);
+        }
+        Due.same("24 places: gather leaves them", Snapshot.of(m, 3, 24), before);
+    }
+
+    private static MetricLogMonitor fullWithNothingGathered() {
+        MetricLogMonitor m = watching().make();
+        for (int i = 0; i < 24; i++) {
+            m.gather(i % 3, i % 4, i / 4 % 4);
+            m.place(i);
+        }
+        return m;
     }
 
     /** Promise 15: "REFUSED ... when the monitor does not watch". */
@@ -373,6 +409,37 @@ public final class LogEdgesTest {
                         Whole.of(() -> stoppedTwice(scene, all)), Whole.of(() -> stopped(scene, all)));
             }
         }
+    }
+
+    /** Promise 16, "the formulas stay", and promise 13: a log after a stop is watched as by a new object. */
+    private static void secondLogIsLikeTheFirst() {
+        for (Scene scene : List.of(Scene.NO_PLACES, Scene.SOME, Scene.FULL_LOG)) {
+            for (int half = 0; half < 2; half++) {
+                MetricLogMonitor again = stopped(scene, false);
+                MetricLogMonitor first = Scene.made(scene.formulas());
+                Due.same(scene.name() + ": a log after it, formulas from " + 6 * half,
+                        secondLog(again, 6 * half), secondLog(first, 6 * half));
+            }
+        }
+    }
+
+    /** All sets of six formulas after each of some places, with other pairs and times than those of the scenes. */
+    private static String secondLog(MetricLogMonitor m, int from) {
+        StringBuilder text = new StringBuilder();
+        m.watch();
+        for (int i = 0; i < 6; i++) {
+            m.gather(0, 3 - i % 4, i % 2);
+            m.gather(1, i % 3, i / 2);
+            m.place(2 * i);
+            for (int f = from; f < from + 6; f++) {
+                text.append(i).append(": progress(").append(f).append(") = ").append(m.progress(f)).append('\n');
+                for (int at = 0; at <= i; at++) {
+                    text.append(i).append(": satisfied(").append(f).append(", ").append(at).append(") = ");
+                    text.append(m.satisfied(f, at)).append('\n');
+                }
+            }
+        }
+        return text.toString();
     }
 
     private static MetricLogMonitor stopped(Scene scene, boolean all) {
